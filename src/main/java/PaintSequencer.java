@@ -579,7 +579,6 @@ public final class PaintSequencer {
         void clear() {
             for (int lane = 0; lane < MOST_LANES; lane++) {
                 sizes[lane] = 0;
-                taken[lane] = 0;
             }
         }
 

@@ -253,6 +253,9 @@ public final class PromiseTest {
         check.answers("4 rule 2, the next that has room", 0, () -> x.arrive(0));
         check.answers("4 rule 2 goes on", 1, () -> x.arrive(0));
         check.answers("4 rule 2, over the full lanes", 0, () -> x.arrive(0));
+        PaintSequencer y = filled(3, 6, "000", "00", "", "0");
+        y.setRules(2, 0);
+        check.answers("4 rule 2, the next behind, not the emptiest", 1, () -> y.arrive(0));
     }
 
     private static void promise4And5NinetyNineBodies() {
@@ -359,6 +362,10 @@ public final class PromiseTest {
         PaintSequencer z = begun(2, 2, 6);
         z.setRules(0, 2);
         check.fails("6 rule 2, all empty", STATE, z::release);
+        z.arriveIn(1, 1);
+        z.arriveIn(2, 0);
+        z.arriveIn(2, 0);
+        check.answers("6 rule 2, ahead of a lower number", 1, z::release);
     }
 
     private static void promise7ReleaseFrom() {
