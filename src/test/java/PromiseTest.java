@@ -3,7 +3,7 @@ public final class PromiseTest {
     private static final Class<IllegalArgumentException> ARGUMENT = IllegalArgumentException.class;
     private static final Class<IndexOutOfBoundsException> INDEX = IndexOutOfBoundsException.class;
     private static final Class<IllegalStateException> STATE = IllegalStateException.class;
-    private static final int[] FAR = {Integer.MIN_VALUE, Integer.MAX_VALUE};
+    private static final int[] FAR = Scene.FAR;
 
     private static final Check check = new Check("PromiseTest");
 
@@ -44,27 +44,6 @@ public final class PromiseTest {
         check.end();
     }
 
-    private static PaintSequencer begun(int lanes, int depth, int store) {
-        PaintSequencer x = new PaintSequencer();
-        x.begin(lanes, depth, store);
-        return x;
-    }
-
-    /** Fills the lanes with colours, a digit each, the head first; the bodies come lane by lane. */
-    private static PaintSequencer filled(int depth, int store, String... rows) {
-        PaintSequencer x = begun(rows.length, depth, store);
-        for (int lane = 0; lane < rows.length; lane++) {
-            fill(x, lane, rows[lane]);
-        }
-        return x;
-    }
-
-    private static void fill(PaintSequencer x, int lane, String colours) {
-        for (char colour : colours.toCharArray()) {
-            x.arriveIn(colour - '0', lane);
-        }
-    }
-
     private static void promise1NewObject() {
         PaintSequencer x = new PaintSequencer();
         check.answers("1 bodies", 0, x::bodies);
@@ -95,7 +74,7 @@ public final class PromiseTest {
     }
 
     private static void promise2Begin() {
-        PaintSequencer x = filled(2, 4, "01", "23", "4");
+        PaintSequencer x = Scene.filled(2, 4, "01", "23", "4");
         x.releaseFrom(2);
         x.releaseFrom(0);
         x.assemble();
@@ -131,7 +110,7 @@ public final class PromiseTest {
     }
 
     private static void promise2RulesStay() {
-        PaintSequencer x = begun(3, 4, 3);
+        PaintSequencer x = Scene.begun(3, 4, 3);
         x.setRules(2, 1);
         x.arrive(0);
         x.arrive(1);
@@ -148,7 +127,7 @@ public final class PromiseTest {
     }
 
     private static void promise2NothingChangesWhenItThrows() {
-        PaintSequencer x = filled(2, 2, "01", "2");
+        PaintSequencer x = Scene.filled(2, 2, "01", "2");
         int[][] wrong = {{0, 1, 1}, {6, 1, 1}, {1, 0, 1}, {1, 7, 1}, {1, 1, 0}, {1, 1, 7},
             {FAR[0], 1, 1}, {FAR[1], 1, 1}, {1, FAR[0], 1}, {1, FAR[1], 1}, {1, 1, FAR[0]},
             {1, 1, FAR[1]}};
@@ -164,7 +143,7 @@ public final class PromiseTest {
     }
 
     private static void promise3SetRules() {
-        PaintSequencer x = begun(3, 4, 6);
+        PaintSequencer x = Scene.begun(3, 4, 6);
         x.setRules(2, 1);
         int[][] wrong = {{-1, 0}, {3, 0}, {0, -1}, {0, 3}, {FAR[0], 0}, {FAR[1], 0}, {0, FAR[0]},
             {0, FAR[1]}, {-1, 3}};
@@ -191,7 +170,7 @@ public final class PromiseTest {
     }
 
     private static void promise4ArriveRule0() {
-        PaintSequencer x = begun(3, 2, 6);
+        PaintSequencer x = Scene.begun(3, 2, 6);
         for (int wrong : new int[] {-1, 5, FAR[0], FAR[1]}) {
             check.fails("4 arrive out of range", ARGUMENT, () -> x.arrive(wrong));
         }
@@ -211,7 +190,7 @@ public final class PromiseTest {
     }
 
     private static void promise4ArriveRule1() {
-        PaintSequencer x = begun(4, 3, 6);
+        PaintSequencer x = Scene.begun(4, 3, 6);
         x.setRules(1, 0);
         check.answers("4 rule 1, all empty", 0, () -> x.arrive(0));
         check.answers("4 rule 1, the same colour", 0, () -> x.arrive(0));
@@ -233,7 +212,7 @@ public final class PromiseTest {
     }
 
     private static void promise4ArriveRule2() {
-        PaintSequencer x = begun(3, 3, 6);
+        PaintSequencer x = Scene.begun(3, 3, 6);
         x.setRules(2, 0);
         check.answers("4 rule 2, lane 0 first", 0, () -> x.arrive(0));
         check.answers("4 rule 2", 1, () -> x.arrive(0));
@@ -253,13 +232,13 @@ public final class PromiseTest {
         check.answers("4 rule 2, the next that has room", 0, () -> x.arrive(0));
         check.answers("4 rule 2 goes on", 1, () -> x.arrive(0));
         check.answers("4 rule 2, over the full lanes", 0, () -> x.arrive(0));
-        PaintSequencer y = filled(3, 6, "000", "00", "", "0");
+        PaintSequencer y = Scene.filled(3, 6, "000", "00", "", "0");
         y.setRules(2, 0);
         check.answers("4 rule 2, the next behind, not the emptiest", 1, () -> y.arrive(0));
     }
 
     private static void promise4And5NinetyNineBodies() {
-        PaintSequencer x = begun(1, 1, 1);
+        PaintSequencer x = Scene.begun(1, 1, 1);
         for (int body = 0; body < 99; body++) {
             int due = body;
             if (body % 2 == 0) {
@@ -285,7 +264,7 @@ public final class PromiseTest {
     }
 
     private static void promise5ArriveIn() {
-        PaintSequencer x = begun(2, 2, 6);
+        PaintSequencer x = Scene.begun(2, 2, 6);
         check.answers("5 arriveIn", 0, () -> x.arriveIn(4, 1));
         check.answers("5 arriveIn", 1, () -> x.arriveIn(0, 1));
         check.fails("5 the lane has no room", STATE, () -> x.arriveIn(0, 1));
@@ -308,7 +287,7 @@ public final class PromiseTest {
     }
 
     private static void promise6ReleaseRule0() {
-        PaintSequencer x = begun(3, 3, 3);
+        PaintSequencer x = Scene.begun(3, 3, 3);
         check.fails("6 all lanes are empty", STATE, x::release);
         x.arriveIn(0, 2);
         x.arriveIn(1, 1);
@@ -328,7 +307,7 @@ public final class PromiseTest {
     }
 
     private static void promise6ReleaseRule1() {
-        PaintSequencer x = filled(4, 6, "01", "12", "01", "3");
+        PaintSequencer x = Scene.filled(4, 6, "01", "12", "01", "3");
         x.setRules(0, 1);
         check.answers("6 rule 1, ahead of the first release", 0, x::release);
         check.answers("6 rule 1, the same colour", 4, x::release);
@@ -340,7 +319,7 @@ public final class PromiseTest {
     }
 
     private static void promise6ReleaseRule2() {
-        PaintSequencer x = filled(4, 6, "0122", "113", "4413", "2");
+        PaintSequencer x = Scene.filled(4, 6, "0122", "113", "4413", "2");
         x.setRules(0, 2);
         check.answers("6 rule 2, the longest block, of two the lowest number", 4, x::release);
         check.answers("6 rule 2, the colour goes on", 5, x::release);
@@ -353,13 +332,13 @@ public final class PromiseTest {
         x.releaseFrom(0);
         x.assemble();
         check.answers("6 rule 2, two blocks of two", 12, () -> x.bodyAt(3, 0));
-        PaintSequencer y = filled(6, 6, "001", "111", "110000");
+        PaintSequencer y = Scene.filled(6, 6, "001", "111", "110000");
         y.setRules(0, 2);
         check.answers("6 rule 2, only the first block of a lane", 3, y::release);
         check.answers("6 rule 2, of the same the lowest", 4, y::release);
         check.answers("6 rule 2, of the same the lowest", 5, y::release);
         check.answers("6 rule 2, of the same the lowest", 6, y::release);
-        PaintSequencer z = begun(2, 2, 6);
+        PaintSequencer z = Scene.begun(2, 2, 6);
         z.setRules(0, 2);
         check.fails("6 rule 2, all empty", STATE, z::release);
         z.arriveIn(1, 1);
@@ -369,7 +348,7 @@ public final class PromiseTest {
     }
 
     private static void promise7ReleaseFrom() {
-        PaintSequencer x = filled(3, 2, "012", "", "3");
+        PaintSequencer x = Scene.filled(3, 2, "012", "", "3");
         check.answers("7 releaseFrom(2)", 3, () -> x.releaseFrom(2));
         check.fails("7 it is empty", STATE, () -> x.releaseFrom(2));
         check.fails("7 it is empty", STATE, () -> x.releaseFrom(1));
@@ -387,7 +366,7 @@ public final class PromiseTest {
 
     private static void promise8ReleaseBest() {
         // Taking 1 first lets all the 0 go together: 1 0 0 2; lane 0 first needs 0 1 0 2.
-        PaintSequencer x = filled(3, 6, "02", "10");
+        PaintSequencer x = Scene.filled(3, 6, "02", "10");
         check.answers("8 fewest", 2, x::fewestChanges);
         check.answers("8 releaseBest", 2, x::releaseBest);
         check.answers("8 the lowest lane of two", 0, x::releaseBest);
@@ -395,7 +374,7 @@ public final class PromiseTest {
         check.answers("8 releaseBest", 1, x::releaseBest);
         check.answers("8 changes", 2, x::changes);
         // The colour of the head may not go on: 2 first, and then 0 0 at once, is as good.
-        PaintSequencer y = filled(3, 6, "10", "20", "0");
+        PaintSequencer y = Scene.filled(3, 6, "10", "20", "0");
         y.releaseFrom(2);
         check.answers("8 fewest", 3, y::fewestChanges);
         check.answers("8 the lowest lane", 0, y::releaseBest);
@@ -403,21 +382,21 @@ public final class PromiseTest {
         check.answers("8 releaseBest", 1, y::releaseBest);
         check.answers("8 releaseBest", 3, y::releaseBest);
         // The change to the first head counts: without it lane 0 would be as good.
-        PaintSequencer z = filled(3, 6, "1", "2", "2");
+        PaintSequencer z = Scene.filled(3, 6, "1", "2", "2");
         z.releaseFrom(1);
         check.answers("8 the change to the head", 2, z::releaseBest);
         check.answers("8 changes", 0, z::changes);
     }
 
     private static void promise8ReleaseBestEdges() {
-        PaintSequencer x = begun(3, 6, 1);
+        PaintSequencer x = Scene.begun(3, 6, 1);
         check.fails("8 all lanes are empty", STATE, x::releaseBest);
-        fill(x, 0, "012340");
-        fill(x, 2, "012340");
+        Scene.fill(x, 0, "012340");
+        Scene.fill(x, 2, "012340");
         check.answers("8 twelve bodies", 0, x::releaseBest);
         check.fails("8 the store is full", STATE, x::releaseBest);
         x.assemble();
-        fill(x, 1, "11");
+        Scene.fill(x, 1, "11");
         check.fails("8 thirteen bodies", STATE, x::releaseBest);
         check.answers("8 released", 1, x::released);
         check.answers("8 stored", 0, x::stored);
@@ -427,7 +406,7 @@ public final class PromiseTest {
     }
 
     private static void promise9SendBack() {
-        PaintSequencer x = filled(4, 4, "0123");
+        PaintSequencer x = Scene.filled(4, 4, "0123");
         check.fails("9 in a lane", STATE, () -> x.sendBack(0));
         x.release();
         x.release();
@@ -448,7 +427,7 @@ public final class PromiseTest {
     }
 
     private static void promise10Reenter() {
-        PaintSequencer x = filled(2, 4, "01", "23");
+        PaintSequencer x = Scene.filled(2, 4, "01", "23");
         x.release();
         check.fails("10 in the store", STATE, () -> x.reenter(0));
         check.fails("10 in a lane", STATE, () -> x.reenter(1));
@@ -470,7 +449,7 @@ public final class PromiseTest {
         check.fails("10 assembled", STATE, () -> x.reenter(1));
         check.answers("10 room again", 0, () -> x.reenter(2));
 
-        PaintSequencer y = filled(4, 6, "00", "2", "12");
+        PaintSequencer y = Scene.filled(4, 6, "00", "2", "12");
         y.setRules(1, 0);
         y.releaseFrom(2);
         y.sendBack(3);
@@ -486,7 +465,7 @@ public final class PromiseTest {
     }
 
     private static void promise11Assemble() {
-        PaintSequencer x = filled(3, 6, "012", "34");
+        PaintSequencer x = Scene.filled(3, 6, "012", "34");
         check.fails("11 the store is empty", STATE, x::assemble);
         x.releaseFrom(1);
         x.releaseFrom(1);
@@ -505,7 +484,7 @@ public final class PromiseTest {
     }
 
     private static void promise12Bodies() {
-        PaintSequencer x = begun(2, 2, 2);
+        PaintSequencer x = Scene.begun(2, 2, 2);
         x.arrive(0);
         x.arriveIn(0, 0);
         check.answers("12 bodies", 2, x::bodies);
@@ -519,7 +498,7 @@ public final class PromiseTest {
     }
 
     private static void promise13Colour() {
-        PaintSequencer x = filled(6, 6, "01234", "3");
+        PaintSequencer x = Scene.filled(6, 6, "01234", "3");
         for (int body = 0; body < 5; body++) {
             int told = body;
             check.answers("13 colour", told, () -> x.colour(told));
@@ -534,7 +513,7 @@ public final class PromiseTest {
     }
 
     private static void promise14Where() {
-        PaintSequencer x = filled(2, 6, "0", "1", "2", "3", "4");
+        PaintSequencer x = Scene.filled(2, 6, "0", "1", "2", "3", "4");
         for (int body = 0; body < 5; body++) {
             int told = body;
             check.answers("14 in a lane", told, () -> x.where(told));
@@ -555,7 +534,7 @@ public final class PromiseTest {
     }
 
     private static void promise15InLane() {
-        PaintSequencer x = filled(6, 6, "012340", "", "11", "2");
+        PaintSequencer x = Scene.filled(6, 6, "012340", "", "11", "2");
         check.answers("15 inLane(0)", 6, () -> x.inLane(0));
         check.answers("15 inLane(1)", 0, () -> x.inLane(1));
         check.answers("15 inLane(2)", 2, () -> x.inLane(2));
@@ -567,7 +546,7 @@ public final class PromiseTest {
     }
 
     private static void promise16BodyAt() {
-        PaintSequencer x = filled(6, 6, "01", "", "234");
+        PaintSequencer x = Scene.filled(6, 6, "01", "", "234");
         check.answers("16 the head", 2, () -> x.bodyAt(2, 0));
         check.answers("16 the last", 4, () -> x.bodyAt(2, 2));
         x.releaseFrom(2);
@@ -582,7 +561,7 @@ public final class PromiseTest {
     }
 
     private static void promise17Block() {
-        PaintSequencer x = filled(6, 6, "001000", "222222", "", "10");
+        PaintSequencer x = Scene.filled(6, 6, "001000", "222222", "", "10");
         check.answers("17 block(0)", 2, () -> x.block(0));
         check.answers("17 block(1)", 6, () -> x.block(1));
         check.answers("17 empty", 0, () -> x.block(2));
@@ -598,7 +577,7 @@ public final class PromiseTest {
     }
 
     private static void promise18Stored() {
-        PaintSequencer x = filled(6, 6, "012340");
+        PaintSequencer x = Scene.filled(6, 6, "012340");
         for (int count = 0; count < 6; count++) {
             check.answers("18 stored", count, x::stored);
             x.release();
@@ -613,7 +592,7 @@ public final class PromiseTest {
     }
 
     private static void promise19Changes() {
-        PaintSequencer x = filled(6, 6, "110011", "0");
+        PaintSequencer x = Scene.filled(6, 6, "110011", "0");
         int[] due = {0, 0, 1, 1, 2};
         for (int changes : due) {
             x.releaseFrom(0);
@@ -633,7 +612,7 @@ public final class PromiseTest {
     }
 
     private static void promise20Released() {
-        PaintSequencer x = filled(6, 6, "00", "1", "1");
+        PaintSequencer x = Scene.filled(6, 6, "00", "1", "1");
         x.release();
         x.releaseFrom(1);
         x.releaseBest();
@@ -648,7 +627,7 @@ public final class PromiseTest {
     }
 
     private static void promise21AssembledAt() {
-        PaintSequencer x = filled(6, 6, "012");
+        PaintSequencer x = Scene.filled(6, 6, "012");
         x.release();
         x.release();
         x.sendBack(0);
@@ -664,7 +643,7 @@ public final class PromiseTest {
     }
 
     private static void promise22Lateness() {
-        PaintSequencer x = filled(6, 6, "012", "3");
+        PaintSequencer x = Scene.filled(6, 6, "012", "3");
         x.release();
         check.fails("22 in the store", STATE, () -> x.lateness(0));
         x.sendBack(0);
@@ -686,7 +665,7 @@ public final class PromiseTest {
     }
 
     private static void promise23WorstLateness() {
-        PaintSequencer x = filled(6, 6, "0", "12", "3");
+        PaintSequencer x = Scene.filled(6, 6, "0", "12", "3");
         x.releaseFrom(2);
         x.assemble();
         check.answers("23 none above 0", 0, x::worstLateness);
@@ -705,18 +684,18 @@ public final class PromiseTest {
     }
 
     private static void promise24FewestChanges() {
-        check.answers("24 none", 0, filled(6, 6, "", "")::fewestChanges);
-        check.answers("24 one", 0, filled(6, 6, "3")::fewestChanges);
-        check.answers("24 one lane", 5, filled(6, 6, "012340")::fewestChanges);
-        check.answers("24 two lanes", 3, filled(6, 6, "0020", "1110")::fewestChanges);
-        check.answers("24 apart", 4, filled(6, 6, "0", "1", "2", "3", "4")::fewestChanges);
-        check.answers("24 twelve", 5, filled(6, 6, "012340", "012340")::fewestChanges);
+        check.answers("24 none", 0, Scene.filled(6, 6, "", "")::fewestChanges);
+        check.answers("24 one", 0, Scene.filled(6, 6, "3")::fewestChanges);
+        check.answers("24 one lane", 5, Scene.filled(6, 6, "012340")::fewestChanges);
+        check.answers("24 two lanes", 3, Scene.filled(6, 6, "0020", "1110")::fewestChanges);
+        check.answers("24 apart", 4, Scene.filled(6, 6, "0", "1", "2", "3", "4")::fewestChanges);
+        check.answers("24 twelve", 5, Scene.filled(6, 6, "012340", "012340")::fewestChanges);
         check.answers("24 twelve in five lanes", 3,
-            filled(3, 6, "010", "101", "01", "10", "01")::fewestChanges);
-        PaintSequencer full = filled(6, 1, "12", "21");
+            Scene.filled(3, 6, "010", "101", "01", "10", "01")::fewestChanges);
+        PaintSequencer full = Scene.filled(6, 1, "12", "21");
         full.releaseFrom(0);
         check.answers("24 whatever room the store has", 2, full::fewestChanges);
-        PaintSequencer x = filled(6, 6, "0101", "1", "");
+        PaintSequencer x = Scene.filled(6, 6, "0101", "1", "");
         check.answers("24 ahead of the first release", 3, x::fewestChanges);
         x.releaseFrom(1);
         check.answers("24 with the change of the next", 4, x::fewestChanges);
@@ -724,27 +703,27 @@ public final class PromiseTest {
         x.sendBack(4);
         check.answers("24 the body in repair counts for nothing", 4, x::fewestChanges);
         check.answers("24 nothing has moved", 4, () -> x.inLane(0));
-        PaintSequencer y = filled(6, 6, "000000", "000000", "1");
+        PaintSequencer y = Scene.filled(6, 6, "000000", "000000", "1");
         check.fails("24 thirteen", STATE, y::fewestChanges);
         y.releaseFrom(2);
         check.answers("24 twelve left", 1, y::fewestChanges);
     }
 
     private static void promise25FewestByAll() {
-        check.answers("25 none", 0, filled(6, 6, "", "")::fewestByAll);
-        check.answers("25 one lane", 5, filled(6, 6, "012340")::fewestByAll);
-        check.answers("25 two lanes", 3, filled(6, 6, "0020", "1110")::fewestByAll);
-        check.answers("25 apart", 4, filled(6, 6, "0", "1", "2", "3", "4")::fewestByAll);
+        check.answers("25 none", 0, Scene.filled(6, 6, "", "")::fewestByAll);
+        check.answers("25 one lane", 5, Scene.filled(6, 6, "012340")::fewestByAll);
+        check.answers("25 two lanes", 3, Scene.filled(6, 6, "0020", "1110")::fewestByAll);
+        check.answers("25 apart", 4, Scene.filled(6, 6, "0", "1", "2", "3", "4")::fewestByAll);
         check.answers("25 eight in five lanes", 4,
-            filled(6, 6, "01", "10", "01", "23", "")::fewestByAll);
-        PaintSequencer x = filled(6, 6, "0101", "1", "22", "2");
+            Scene.filled(6, 6, "01", "10", "01", "23", "")::fewestByAll);
+        PaintSequencer x = Scene.filled(6, 6, "0101", "1", "22", "2");
         check.answers("25 ahead of the first release", 4, x::fewestByAll);
         x.releaseFrom(3);
         check.answers("25 goes on", 4, x::fewestByAll);
         x.releaseFrom(1);
         check.answers("25 with the change of the next", 5, x::fewestByAll);
         check.answers("25 nothing has moved", 4, () -> x.inLane(0));
-        PaintSequencer y = filled(6, 6, "0000", "0000", "1");
+        PaintSequencer y = Scene.filled(6, 6, "0000", "0000", "1");
         check.fails("25 nine", STATE, y::fewestByAll);
         check.answers("24 nine", 1, y::fewestChanges);
         y.releaseFrom(2);
